@@ -605,7 +605,7 @@ public final class KiteMeet {
     private static final class Air {
         private final Flyers flyers = new Flyers();
         private final Winds winds = new Winds();
-        /** For each flyer the set of those whose kites its own meets, in the minute looked at. */
+        /** For each flyer the set of earlier ones that its kite meets, in the minute asked for. */
         private final int[] near = new int[MOST_FLYERS];
 
         boolean carries(int flyer, int minute) {
@@ -693,7 +693,6 @@ public final class KiteMeet {
                 for (int other = 0; other < flyer; other++) {
                     if (areTooNear(flyer, other, minute)) {
                         near[flyer] |= 1 << other;
-                        near[other] |= 1 << flyer;
                     }
                 }
             }
@@ -750,10 +749,6 @@ public final class KiteMeet {
         private final int[] lengths = new int[MOST_ROW];
         private final int[] letters = new int[MOST_ROW * MOST_LETTERS];
         private int size;
-
-        Words() {
-            begin(FIRST_ROW);
-        }
 
         void begin(int n) {
             size = n;
@@ -829,10 +824,8 @@ public final class KiteMeet {
             return true;
         }
 
+        /** Whether these are the words of another row of as many. */
         boolean areThoseOf(Words others) {
-            if (size != others.size) {
-                return false;
-            }
             for (int place = 0; place < size; place++) {
                 if (!hasWordOf(others, place)) {
                     return false;
@@ -884,11 +877,11 @@ public final class KiteMeet {
         /** Tries the walks from number 'done' up to 'length' in order; words end as they were. */
         private boolean untangles(Words words, Joining joining, int done, int length) {
             int left = length - done;
-            if (left <= 0 || left > MOST_UNTANGLING) {
-                return words.areAsAtFirst();
-            }
-            if (words.longest() > LONGEST[left]) {
+            if (left < 0 || left > MOST_UNTANGLING || words.longest() > LONGEST[left]) {
                 return false;
+            }
+            if (left == 0) {
+                return words.areAsAtFirst();
             }
             for (int told = 0; told < walksOf(words.size); told++) {
                 if (words.pass(placeOf(told), isFront(told), joining)) {

@@ -107,6 +107,20 @@ public final class AirTest {
         Due.due("no such other", x.meet(0, 3, 0), Due.BEYOND);
         Due.due("no such flyer", x.meet(-1, 0, 0), Due.BEYOND);
         Due.due("minute -1", x.meet(0, 1, -1), Due.BEYOND);
+        meetEndsWithMinute19();
+    }
+
+    /** The winds of the next height are none of this one's later minutes. */
+    private static void meetEndsWithMinute19() {
+        KiteMeet x = new KiteMeet();
+        for (int height = 0; height < 4; height++) {
+            x.flyer(0, 5050, height, 10, 2, 16 + 12);
+            x.flyer(0, 5050, height, 10, 2, 16 + 12);
+        }
+        x.wind(1, 0, 0, 5);
+        Due.due("height 0", x.meet(0, 1, 3), Due.NONE);
+        Due.due("height 1", x.meet(2, 3, 0), 0);
+        Due.due("height 3", x.meet(6, 7, 3), Due.NONE);
     }
 
     /** Promise 12. */
@@ -121,6 +135,14 @@ public final class AirTest {
         Due.due("without the fourth", x.meets(0), 5);
         x.wind(0, 4, 0, 12);
         Due.due("all fly", x.meets(4), 5);
+        KiteMeet y = new KiteMeet();
+        y.flyer(0, 5050, 0, 10, 1, 12);
+        y.flyer(0, 5050, 0, 10, 1, 16 + 12);
+        Due.due("only the first flies", y.meets(0), 0);
+        y.wind(0, 1, 0, 1);
+        Due.due("both fly", y.meets(1), 1);
+        y.flyer(2, 5050, 0, 10, 1, 12);
+        Due.due("the third flies in 1, not in 0", y.meets(1) * 10 + y.meets(0), 30);
         Due.due("minute 20", x.meets(20), Due.BEYOND);
         Due.due("minute -1", x.meets(-1), Due.BEYOND);
     }
@@ -160,6 +182,15 @@ public final class AirTest {
         star.flyer(0, 5044, 0, 10, 2, 12);
         star.flyer(0, 5056, 0, 10, 2, 12);
         Due.due("two about one", star.field(0), 0b110);
+        KiteMeet last = new KiteMeet();
+        last.flyer(0, 5044, 0, 10, 2, 12);
+        last.flyer(0, 5056, 0, 10, 2, 12);
+        last.flyer(0, 5050, 0, 10, 5, 12);
+        Due.due("the last meets both others", last.field(0), 0b011);
+        last.go(2, 5060);
+        Due.due("the last meets one", last.field(0), 0b011);
+        last.go(2, 9090);
+        Due.due("the last meets none", last.field(0), 0b111);
     }
 
     /** Promise 14. */
@@ -174,6 +205,8 @@ public final class AirTest {
         Due.due("all", x.best(0, 19), 6);
         Due.due("up to 5", x.best(0, 5), 4);
         Due.due("from 7", x.best(7, 19), 8);
+        Due.due("to is looked at, too", x.best(0, 6), 6);
+        Due.due("from is looked at, too", x.best(8, 19), 8);
         Due.due("one", x.best(19, 19), 19);
         Due.due("from above to", x.best(6, 5), Due.BEYOND);
         Due.due("from -1", x.best(-1, 5), Due.BEYOND);

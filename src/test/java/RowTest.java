@@ -353,6 +353,9 @@ public final class RowTest {
         dueSame(x, 3, new int[] {0, 2, 0}, new int[] {2, 0, 3}, 0);
         dueSame(x, 2, new int[] {0}, new int[] {1}, 0);
         dueSame(x, 2, new int[] {0, 1}, new int[] {}, 1);
+        dueSame(x, 2, new int[] {0, 0}, new int[] {}, 0);
+        dueSame(x, 3, new int[] {1}, new int[] {2}, 0);
+        dueSame(x, 3, new int[] {0, 0}, new int[] {0, 2, 0}, 0);
         dueSame(x, 4, new int[] {0, 4}, new int[] {4, 0}, 1);
         dueSame(x, 4, new int[] {0, 2}, new int[] {2, 0}, 0);
         dueSame(x, 5, new int[] {7, 0, 6}, new int[] {0}, 1);

@@ -178,6 +178,14 @@ public final class SheetsTest {
         x.sheet(1, 8, 0);
         Due.due("none", x.gusts(2, 19, 1), 0);
         Due.due("an act all the same", x.undo(), 4);
+        x.wind(0, 4, 1, 6);
+        tell(x, 0, 8, 1, 2, 3);
+        Due.due("1, 2 and 3", x.gusts(0, 1, 0), 3);
+        Due.due("3", x.windAt(0, 3, false), 3);
+        Due.due("behind them", x.windAt(0, 4, false), 6);
+        Due.due("put shorter", x.sheet(0, 8, 2), 2);
+        Due.due("the two alone", x.gusts(0, 1, 0), 2);
+        Due.due("behind them", x.windAt(0, 3, false), 3);
     }
 
     private static void gustsFindings() {

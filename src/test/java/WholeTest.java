@@ -177,5 +177,56 @@ public final class WholeTest {
         x.tangle();
         x.lost();
         Due.due("as it was", x.all(4), 28);
+        laterFindingsAreCounted();
+    }
+
+    /** Those that a call asks behind its first one. */
+    private static void laterFindingsAreCounted() {
+        KiteMeet x = new KiteMeet();
+        x.flyer(0, 0, 0, 0, 1, 0);
+        x.flyer(0, 0, 0, 1, 1, 13);
+        x.flyer(0, 0, 0, 1, 1, 16);
+        for (int i = 0; i < 9; i++) {
+            x.flyer(0, 0, 0, 1, 1, 16 + 2);
+        }
+        x.as(0, 3);
+        x.wind(0, 0, 8, 0);
+        x.kite(0, 0, true);
+        x.meet(0, 0, 0);
+        x.meet(0, 1, 0);
+        Due.due("flyers, winds, air", x.all(4), 9);
+        x.row(2);
+        for (int i = 0; i < 30; i++) {
+            x.walk(0, true);
+        }
+        x.undo();
+        x.sharp(0, 9);
+        x.walk(0, false);
+        x.walk(0, false);
+        x.walk(0, false);
+        x.walk(0, false);
+        x.letter(0, 60);
+        x.twist(-1, 0);
+        x.fewest(-2);
+        Due.due("row", x.all(4), 14);
+        x.same(1, 0, 0);
+        x.sheet(0, 8, 30);
+        x.same(2, 0, 0);
+        x.put(0, 0, 13);
+        x.same(2, 0, 0);
+        x.gusts(0, 19, 0);
+        x.sheet(0, 8, 1);
+        x.put(0, 0, 13);
+        x.gusts(0, 0, 0);
+        x.gusts(0, 20, 0);
+        x.sheet(0, 8, -1);
+        x.sheet(0, 8, 41);
+        x.put(-1, 0, 0);
+        x.put(0, -1, 0);
+        x.copy(-1, 0, 0, 0, 0);
+        x.copy(0, 0, 0, 0, 2);
+        x.sheet(1, 16, 1);
+        x.copy(0, 0, 1, 0, 0);
+        Due.due("sheets", x.all(4), 14 + 13);
     }
 }
