@@ -1,12 +1,12 @@
-import java.lang.reflect.InvocationTargetException;
-import java.lang.reflect.Method;
 import java.util.Arrays;
 import java.util.Random;
 
 /** Runs of calls by chance (always the same ones), held against PlainField. */
 public final class ModelTest {
     private static final int RUNS = 240;
-    private static final int CALLS = 511;
+    /** A run's calls; or, of one at whose end all is looked at with 345 calls more, fewer. */
+    private static final int CALLS = 512;
+    private static final int CALLS_AHEAD_OF_ALL = 165;
     private static final int[] ODD = {
         Integer.MIN_VALUE, Integer.MAX_VALUE, -1, -2, 0, 1, 255, 256, 65536, 1 << 30, -10000,
     };
@@ -54,6 +54,8 @@ public final class ModelTest {
         for (int run = 0; run < RUNS; run++) {
             mixedRun(run);
             rowRun(run);
+            airRun(run);
+            sheetRun(run);
         }
         Due.end();
     }
@@ -62,7 +64,8 @@ public final class ModelTest {
         Random chance = new Random(run);
         KiteMeet x = new KiteMeet();
         PlainField plain = new PlainField();
-        for (int i = 0; i < CALLS; i++) {
+        int calls = run % 2 == 0 ? CALLS : CALLS_AHEAD_OF_ALL;
+        for (int i = 0; i < calls; i++) {
             Object[] kind = CALLS_BY_KIND[chance.nextInt(CALLS_BY_KIND.length)];
             int[] a = arguments(chance, (int[]) kind[1]);
             String name = (String) kind[0];
@@ -76,7 +79,9 @@ public final class ModelTest {
             }
             compare(x, plain, "run " + run + ", call " + i, name, a);
         }
-        compareAll(x, plain, "run " + run);
+        if (run % 2 == 1) {
+            compareAll(x, plain, "run " + run);
+        }
     }
 
     /** Mostly walks, so that words get long and lines worn. */
@@ -85,7 +90,7 @@ public final class ModelTest {
         KiteMeet x = new KiteMeet();
         PlainField plain = new PlainField();
         compare(x, plain, "row", "row", new int[] {2 + run % 4});
-        for (int i = 0; i < 200; i++) {
+        for (int i = 0; i < CALLS_AHEAD_OF_ALL; i++) {
             String where = "row run " + run + ", call " + i;
             int pick = chance.nextInt(40);
             if (pick == 0) {
@@ -102,6 +107,74 @@ public final class ModelTest {
             }
         }
         compareAll(x, plain, "row run " + run);
+    }
+
+    /** Kites that are near one another, in winds that change little, so that many fly and meet. */
+    private static void airRun(int run) throws Exception {
+        Random chance = new Random(1000 + run);
+        KiteMeet x = new KiteMeet();
+        PlainField plain = new PlainField();
+        int flyers = 2 + run % 7;
+        for (int i = 0; i < flyers; i++) {
+            int[] flyer = {
+                chance.nextInt(4), near(chance), chance.nextInt(8) / 7, 1 + chance.nextInt(6),
+                1 + chance.nextInt(5), 16 * chance.nextInt(3) + 3 + chance.nextInt(6),
+            };
+            compare(x, plain, "air run " + run, "flyer", flyer);
+        }
+        for (int i = 0; i < 400; i++) {
+            String where = "air run " + run + ", call " + i;
+            int flyer = chance.nextInt(flyers);
+            int minute = chance.nextInt(20);
+            switch (chance.nextInt(9)) {
+                case 0: compare(x, plain, where, "go", flyer, near(chance)); break;
+                case 1: compare(x, plain, where, "line", flyer, 1 + chance.nextInt(9)); break;
+                case 2: compare(x, plain, where, "flies", flyer, minute); break;
+                case 3: compare(x, plain, where, "meets", minute); break;
+                case 4: compare(x, plain, where, "field", minute); break;
+                case 5: compare(x, plain, where, "best", chance.nextInt(minute + 1), minute); break;
+                case 6: compare(x, plain, where, "meet", flyer, chance.nextInt(flyers), minute); break;
+                case 7: compare(x, plain, where, "kite", flyer, minute, chance.nextInt(2)); break;
+                default: compare(x, plain, where, "wind",
+                        chance.nextInt(2), minute, chance.nextInt(8), chance.nextInt(8)); break;
+            }
+        }
+        for (int minute = 0; minute < 20; minute++) {
+            compare(x, plain, "air run " + run, "field", minute);
+        }
+    }
+
+    private static int near(Random chance) {
+        return 100 * (45 + chance.nextInt(15)) + 45 + chance.nextInt(15);
+    }
+
+    /** Sheets that tell walks; one is told from another by walks that can be told otherwise. */
+    private static void sheetRun(int run) throws Exception {
+        Random chance = new Random(2000 + run);
+        KiteMeet x = new KiteMeet();
+        PlainField plain = new PlainField();
+        int n = 2 + run % 4;
+        for (int round = 0; round < 8; round++) {
+            String where = "sheet run " + run + ", round " + round;
+            int count = chance.nextInt(round < 6 ? 8 : 20);
+            int bits = 8 << chance.nextInt(3);
+            compare(x, plain, where, "sheet", 0, bits, count);
+            compare(x, plain, where, "sheet", 1, bits, count + 2);
+            for (int i = 0; i < count; i++) {
+                compare(x, plain, where, "put", 0, i, chance.nextInt(2 * (n - 1)));
+            }
+            int ahead = chance.nextInt(count + 1);
+            compare(x, plain, where, "copy", 0, 0, 1, 0, ahead);
+            compare(x, plain, where, "copy", 0, ahead, 1, ahead + 2, count - ahead);
+            int there = chance.nextInt(2 * (n - 1));
+            compare(x, plain, where, "put", 1, ahead, there);
+            compare(x, plain, where, "put", 1, ahead + 1, chance.nextInt(5) == 0 ? there : there ^ 1);
+            compare(x, plain, where, "same", n, 0, 1);
+            compare(x, plain, where, "same", n, 1, 0);
+            compare(x, plain, where, "same", 2 + chance.nextInt(4), 0, 1);
+            compare(x, plain, where, "gusts", 0, chance.nextInt(20), chance.nextInt(3));
+            compare(x, plain, where, "windAt", 0, chance.nextInt(20), 0);
+        }
     }
 
     private static int[] arguments(Random chance, int[] bounds) {
@@ -136,26 +209,9 @@ public final class ModelTest {
         }
     }
 
-    private static void compare(KiteMeet x, PlainField plain, String where, String name, int[] a)
+    private static void compare(KiteMeet x, PlainField plain, String where, String name, int... a)
             throws Exception {
-        Due.due(where + ": " + name + Arrays.toString(a), answer(x, name, a), plain.call(name, a));
-    }
-
-    private static int answer(KiteMeet x, String name, int[] a) throws Exception {
-        for (Method m : KiteMeet.class.getDeclaredMethods()) {
-            if (m.getName().equals(name)) {
-                Object[] given = new Object[a.length];
-                for (int i = 0; i < a.length; i++) {
-                    boolean yes = m.getParameterTypes()[i] == boolean.class;
-                    given[i] = yes ? (Object) (a[i] == 1) : (Object) a[i];
-                }
-                try {
-                    return (Integer) m.invoke(x, given);
-                } catch (InvocationTargetException e) {
-                    throw new AssertionError(name + Arrays.toString(a) + " threw", e.getCause());
-                }
-            }
-        }
-        throw new IllegalArgumentException(name);
+        int want = plain.call(name, a);
+        Due.due(where + ": " + name + Arrays.toString(a), Calls.answer(x, name, a), want);
     }
 }

@@ -54,7 +54,7 @@ public final class RoomTest {
         x.walk(2, true);
         x.walk(1, true);
         x.sheet(0, 8, 25);
-        for (int i = 0; i < 125; i++) {
+        for (int i = 0; i < 124; i++) {
             sum += x.best(0, 19) + x.fewest(2) + x.same(5, 0, 0) + x.meet(0, 7, 0);
         }
     }
